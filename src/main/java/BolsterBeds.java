@@ -32,10 +32,10 @@ public final class BolsterBeds {
     private final Town aside = new Town();
     private final int[] deeds = new int[MAX_DEEDS];
     private int deedCount = 0;
-    private final Reader reader = new Reader(texts);
+    private final Reader reader = new Reader();
     private final Rounds rounds = new Rounds();
     private final Marriages marriages = new Marriages();
-    private final Clues clues = new Clues(rows, now);
+    private final Clues clues = new Clues();
     private final Duel turns = new Duel();
     private int told = 0;
     private long high = 0;
@@ -139,7 +139,7 @@ public final class BolsterBeds {
 
     public int fault(int t) {
         int refusal = refusalOfMissing(texts, t);
-        return refusal != WELL ? refusal : reader.readTown(t);
+        return refusal != WELL ? refusal : reader.readTown(texts, t);
     }
 
     public int town(int t) {
@@ -147,7 +147,7 @@ public final class BolsterBeds {
         if (refusal != WELL) {
             return refusal;
         }
-        if (reader.readTown(t) != NONE) {
+        if (reader.readTown(texts, t) != NONE) {
             return STATE;
         }
         start.copyFrom(reader.draft);
@@ -378,21 +378,21 @@ public final class BolsterBeds {
     // ---- 6 what crossed
 
     public int thicks(int i, int r) {
-        int refusal = refusalOfPairs(i, r);
-        return refusal != WELL ? refusal : clues.thicksFitting(i, now.kindOf(i), r);
+        int refusal = takePairs(i, r);
+        return refusal != WELL ? refusal : clues.thicksFitting(now, i, now.kindOf(i));
     }
 
     public int kinds(int i, int r) {
-        int refusal = refusalOfPairs(i, r);
-        return refusal != WELL ? refusal : clues.kindsFitting(i, now.thickOf(i), r);
+        int refusal = takePairs(i, r);
+        return refusal != WELL ? refusal : clues.kindsFitting(now, i, now.thickOf(i));
     }
 
     public int test(int i, int r) {
-        int refusal = refusalOfPairs(i, r);
+        int refusal = takePairs(i, r);
         if (refusal != WELL) {
             return refusal;
         }
-        int best = clues.tellingNight(i, r);
+        int best = clues.tellingNight(now, i);
         if (best != NONE) {
             told = clues.greatest;
         }
@@ -570,7 +570,8 @@ public final class BolsterBeds {
         return shelf.holds(r, i, 1) ? WELL : refuse(BEYOND);
     }
 
-    private int refusalOfPairs(int i, int r) {
+    /** WELL, the clues holding the pairs of a row then; or why they are refused. */
+    private int takePairs(int i, int r) {
         if (!now.has(i)) {
             return BAD;
         }
@@ -581,7 +582,7 @@ public final class BolsterBeds {
         if (rows.size(r) % 2 != 0) {
             return refuse(SIZE);
         }
-        return clues.areNumbers(r) ? WELL : refuse(UNLIKE);
+        return clues.take(rows, r) ? WELL : refuse(UNLIKE);
     }
 
     private boolean isRound(int r) {
@@ -750,14 +751,14 @@ public final class BolsterBeds {
 
         void make(int r, int n, int filling) {
             write(sizes, r, Math.min(n, room));
-            for (int i = 0; i < size(r); i++) {
+            for (int i = 0; i < n && i < room; i++) {
                 set(r, i, filling);
             }
         }
 
         void makeOf(int r, int n, int[] values) {
             write(sizes, r, Math.min(n, room));
-            for (int i = 0; i < size(r); i++) {
+            for (int i = 0; i < n && i < room; i++) {
                 set(r, i, read(values, i));
             }
         }
@@ -968,6 +969,7 @@ public final class BolsterBeds {
             return found;
         }
 
+        /** Nothing is thinned if i is no bed. */
         void thinBed(int i, int often) {
             write(thicks, i, Math.max(0, read(thicks, i) - often));
         }
@@ -978,10 +980,8 @@ public final class BolsterBeds {
             write(rights, j, first);
         }
 
-        void clear() {
-            thread = 1;
+        void clearBeds() {
             beds = 0;
-            night = 0;
         }
 
         void addBed(int kind, int left, int right, int thick) {
@@ -995,27 +995,26 @@ public final class BolsterBeds {
 
     /** Reads texts as towns. */
     private static final class Reader {
-        private final Shelf texts;
         private final Town draft = new Town();
-        private int t = 0;
+        private final int[] signs = new int[TEXT_ROOM];
+        private int size = 0;
         private int place = 0;
 
-        Reader(Shelf texts) {
-            this.texts = texts;
-        }
-
         /** The fault of a text; NONE if there is none: the draft is its town then. */
-        int readTown(int number) {
-            t = number;
+        int readTown(Shelf texts, int t) {
+            size = texts.size(t);
+            for (int i = 0; i < size; i++) {
+                write(signs, i, texts.get(t, i));
+            }
             place = 0;
-            draft.clear();
+            draft.clearBeds();
             skipBlanks();
             if (!takesHead()) {
                 return place;
             }
             for (int tries = 0; tries <= MAX_BEDS; tries++) {
                 skipBlanks();
-                if (place >= texts.size(t)) {
+                if (place >= size) {
                     return draft.beds > 0 ? NONE : place;
                 }
                 if (!takesBed()) {
@@ -1059,7 +1058,7 @@ public final class BolsterBeds {
         }
 
         private void skipBlanks() {
-            while (place < texts.size(t) && here() == BLANK) {
+            while (place < size && here() == BLANK) {
                 place++;
             }
         }
@@ -1085,7 +1084,7 @@ public final class BolsterBeds {
 
         /** The byte here; 0, which is no letter, figure or blank, behind the end. */
         private int here() {
-            return texts.get(t, place);
+            return place < size ? read(signs, place) : 0;
         }
     }
 
@@ -1177,50 +1176,51 @@ public final class BolsterBeds {
         }
     }
 
-    /** What rows of pairs, a night and how many crossed in it, tell of a bed. */
+    /** What pairs, a night and how many crossed in it, tell of a bed. */
     private static final class Clues {
-        private final Shelf rows;
-        private final Town town;
+        private final int[] nights = new int[ROW_ROOM / 2];
+        private final int[] crossings = new int[ROW_ROOM / 2];
         private final int[] fitting = new int[KINDS];
         private final int[] parts = new int[MOST_CROSSED + 1];
+        private int pairs = 0;
         private int greatest = 0;
 
-        Clues(Shelf rows, Town town) {
-            this.rows = rows;
-            this.town = town;
-        }
-
-        boolean areNumbers(int r) {
-            for (int k = 0; k < rows.size(r); k++) {
-                int v = rows.get(r, k);
-                if (v < 0 || v > (k % 2 == 0 ? LAST_NIGHT : MOST_CROSSED)) {
+        /** Whether the pairs of a row are nights and crossings; they are held from then on. */
+        boolean take(Shelf rows, int r) {
+            pairs = rows.size(r) / 2;
+            for (int k = 0; k < pairs; k++) {
+                int m = rows.get(r, 2 * k);
+                int crossed = rows.get(r, 2 * k + 1);
+                write(nights, k, m);
+                write(crossings, k, crossed);
+                if (m < 0 || m > LAST_NIGHT || crossed < 0 || crossed > MOST_CROSSED) {
                     return false;
                 }
             }
             return true;
         }
 
-        int thicksFitting(int i, int kind, int r) {
+        int thicksFitting(Town town, int i, int kind) {
             int bits = 0;
             for (int thick = 0; thick <= MAX_THICK; thick++) {
-                bits |= fits(i, kind, thick, r) ? 1 << thick : 0;
+                bits |= fits(town, i, kind, thick) ? 1 << thick : 0;
             }
             return bits;
         }
 
-        int kindsFitting(int i, int thick, int r) {
+        int kindsFitting(Town town, int i, int thick) {
             int bits = 0;
             for (int kind = 0; kind < KINDS; kind++) {
-                bits |= fits(i, kind, thick, r) ? 1 << kind : 0;
+                bits |= fits(town, i, kind, thick) ? 1 << kind : 0;
             }
             return bits;
         }
 
-        /** The night that tells most, or NONE; its greatest part is kept. */
-        int tellingNight(int i, int r) {
+        /** The night that tells most, its greatest part being held then; or NONE. */
+        int tellingNight(Town town, int i) {
             int any = 0;
             for (int kind = 0; kind < KINDS; kind++) {
-                int bits = thicksFitting(i, kind, r);
+                int bits = thicksFitting(town, i, kind);
                 write(fitting, kind, bits);
                 any |= bits;
             }
@@ -1230,7 +1230,7 @@ public final class BolsterBeds {
             int best = 0;
             greatest = MORE_THAN_ANY;
             for (int m = 0; m < TEST_NIGHTS; m++) {
-                int part = greatestPart(i, m);
+                int part = greatestPart(town, i, m);
                 if (part < greatest) {
                     greatest = part;
                     best = m;
@@ -1239,7 +1239,7 @@ public final class BolsterBeds {
             return best;
         }
 
-        private int greatestPart(int i, int m) {
+        private int greatestPart(Town town, int i, int m) {
             Arrays.fill(parts, 0);
             int most = 0;
             for (int kind = 0; kind < KINDS; kind++) {
@@ -1254,9 +1254,9 @@ public final class BolsterBeds {
             return most;
         }
 
-        private boolean fits(int i, int kind, int thick, int r) {
-            for (int k = 0; k + 1 < rows.size(r); k += 2) {
-                if (town.crossesAs(i, kind, thick, rows.get(r, k)) != rows.get(r, k + 1)) {
+        private boolean fits(Town town, int i, int kind, int thick) {
+            for (int k = 0; k < pairs; k++) {
+                if (town.crossesAs(i, kind, thick, read(nights, k)) != read(crossings, k)) {
                     return false;
                 }
             }
@@ -1266,7 +1266,7 @@ public final class BolsterBeds {
 
     /** Turns of an upholsterer, who wants little found, and of an inspector, who wants much. */
     private static final class Duel {
-        private final Levels levels = new Levels(DUEL_TURNS + 1);
+        private final Levels levels = new Levels(DUEL_TURNS);
 
         int foundFrom(Town town, int turn, int n) {
             if (turn >= n) {
@@ -1279,7 +1279,7 @@ public final class BolsterBeds {
             int fewest = MORE_THAN_ANY;
             for (int i = -1; i < town.beds; i++) {
                 if (i < 0 || town.thickOf(i) > 0) {
-                    Town next = levels.copyAt(turn + 1, town);
+                    Town next = levels.copyAt(turn, town);
                     if (next != null) {
                         next.thinBed(i, 1);
                         next.passNight();
@@ -1295,7 +1295,7 @@ public final class BolsterBeds {
             for (int i = -1; i < town.beds; i++) {
                 // A bed that is not found out is as good as none.
                 if (i < 0 || town.wouldBeFound(i)) {
-                    Town next = levels.copyAt(turn + 1, town);
+                    Town next = levels.copyAt(turn, town);
                     if (next != null) {
                         int found = next.inspectBed(i);
                         most = Math.max(most, found + foundFrom(next, turn + 1, n));

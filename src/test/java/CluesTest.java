@@ -106,15 +106,20 @@ public final class CluesTest {
         Check.due("the greatest numbers are well", x.thicks(0, 1), 0);
         Check.row(x, 1, 99, 19);
         Check.due("19 cross", x.thicks(0, 1), 3);
+        BolsterBeds y = Check.town("n13571 t900");
         int[] forty = new int[40];
-        for (int k = 0; k < 40; k += 2) {
-            forty[k] = 99 - k;
-            forty[k + 1] = 19;
+        for (int k = 0; k < 20; k++) {
+            forty[2 * k] = 99 - k;
+            forty[2 * k + 1] = y.cross(0, 99 - k);
         }
-        Check.row(x, 1, forty);
-        Check.due("40 places", x.thicks(0, 1), 3);
-        x.lay(1, 39, 18);
-        Check.due("the last pair tells, too", x.thicks(0, 1), 0);
+        Check.row(y, 1, forty);
+        Check.due("40 places", y.thicks(0, 1), 3);
+        Check.due("40 places of a thin one", y.kinds(0, 1), 1 << 4);
+        for (int k = 0; k < 20; k++) {
+            y.lay(1, 2 * k + 1, forty[2 * k + 1] - 1);
+            Check.due("pair " + k + " tells, too", y.thicks(0, 1), 0);
+            y.lay(1, 2 * k + 1, forty[2 * k + 1]);
+        }
     }
 
     private static void refused() {

@@ -175,6 +175,11 @@ public final class DeedsTest {
         Check.due("no fine then", x.count(3), 0);
         Check.due("on(2) again", x.on(2), 3);
         Check.due("one fine", x.count(3), 1);
+        x.undo(0);
+        x.thin(0);
+        x.swap(2, 3);
+        Check.due("on(2) from elsewhere", x.on(2), 3);
+        Check.due("as it was kept, from elsewhere", x.digest(), digest);
         Check.due("on(0)", x.on(0), 0);
         Check.due("night 0", x.count(1), 0);
         Check.due("still two are kept", x.count(10), 2);

@@ -78,6 +78,9 @@ public final class MarriagesTest {
         rather("n00001 b150 b950", 0, NONE);
         // Only one would: gaps 4 and 0; with the other one's 2 and 2.
         rather("n00001 b150 b330", 0, NONE);
+        // One would, the other one's gap would be as great: 4 and 2; 2 and 6.
+        rather("n00001 b420 b260", 0, NONE);
+        rather("n00001 b260 b420", 0, NONE);
         rather("n00001 b550 b920 b180", 1, 12);
         rather("n00001 b190 b910 b180 b810", 4, 1);
         rather(Check.ALL_KINDS, 5, 2);

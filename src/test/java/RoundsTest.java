@@ -113,6 +113,10 @@ public final class RoundsTest {
         for (int wrong : new int[] {2, -1, -8, -10, Integer.MAX_VALUE}) {
             x.lay(0, 1, wrong);
             Check.refusedBy(x, "no bed " + wrong, () -> x.brings(0), UNLIKE);
+            x.lay(0, 1, 0);
+            x.lay(0, 0, wrong);
+            Check.refusedBy(x, "no bed first " + wrong, () -> x.brings(0), UNLIKE);
+            x.lay(0, 0, 0);
         }
         BolsterBeds none = new BolsterBeds();
         Check.refused(none, "brings(6)", () -> none.brings(6), BAD);

@@ -45,6 +45,9 @@ public final class RowsTest {
         x.row(0, 1);
         x.row(0, 2);
         Check.rowIs(x, "grown row", 0, 0, 0);
+        x.lay(0, 0, 7);
+        x.row(0, 2);
+        Check.rowIs(x, "row anew", 0, 0, 0);
         Check.refused(x, "row(-1, 1)", () -> x.row(-1, 1), BAD);
         Check.refused(x, "row(6, -1)", () -> x.row(6, -1), BAD);
         Check.refused(x, "row(0, 41)", () -> x.row(0, 41), BAD);
@@ -100,6 +103,17 @@ public final class RowsTest {
         Check.rowIs(x, "down itself", 0, 1, 2, 3, 3);
         Check.due("copy nothing at the ends", x.copy(0, 4, 1, 3, 0), 1);
         Check.rowIs(x, "nothing copied", 1, 2, 3, 4);
+        Check.row(x, 5, 6, 7);
+        Check.due("copy(5, 0, 1, 1, 2)", x.copy(5, 0, 1, 1, 2), 1);
+        Check.rowIs(x, "from the last row", 1, 2, 6, 7);
+        Check.due("copy(1, 0, 5, 1, 1)", x.copy(1, 0, 5, 1, 1), 1);
+        Check.rowIs(x, "to the last row", 5, 6, 2);
+        x.row(2, 40);
+        x.row(3, 40);
+        x.lay(2, 39, 8);
+        Check.due("copy of a whole row", x.copy(2, 0, 3, 0, 40), 1);
+        x.at(3, 39);
+        Check.due("its last place", x.asked(), 8);
     }
 
     private static void copyRefused() {
@@ -132,6 +146,9 @@ public final class RowsTest {
         Check.row(x, 0, Integer.MAX_VALUE, Integer.MAX_VALUE, Integer.MAX_VALUE);
         x.mean(0);
         Check.due("mean of great ones", x.asked(), Integer.MAX_VALUE);
+        Check.row(x, 0, -6);
+        x.mean(0);
+        Check.due("mean of one", x.asked(), -6);
         x.row(1, 0);
         Check.refused(x, "mean(6)", () -> x.mean(6), BAD);
         Check.refusedBy(x, "mean(2)", () -> x.mean(2), NOTHING);

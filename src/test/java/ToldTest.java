@@ -114,6 +114,7 @@ public final class ToldTest {
         for (int wrong : new int[] {-1, 11, Integer.MIN_VALUE, Integer.MAX_VALUE}) {
             Check.refused(x, "count(" + wrong + ")", () -> x.count(wrong), BAD);
         }
+        Check.due("quilts alone", Check.town("n11111 q111 b111 t111 q111").count(7), 3);
         BolsterBeds none = new BolsterBeds();
         Check.write(none, 0, "n9999");
         none.town(0);

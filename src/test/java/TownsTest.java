@@ -56,6 +56,13 @@ public final class TownsTest {
         fault("n12345b123s123q123c123t123w123  b", 32);
         fault("n12345b123s123q123c123t123w123  x", 32);
         fault("n12345b123s123q123c123t123w12", 29);
+        fault("n12345bs000", 7);
+        fault("n12345b1s000", 8);
+        fault("n12345b12s000", 9);
+        fault("n12345b000s1", 12);
+        fault("n12345b000s12 s000", 13);
+        fault("n12b000", 3);
+        fault("n1234b000", 5);
         fault("12345b000", 0);
         fault("b000", 0);
         fault("n1234/b000", 5);
