@@ -49,14 +49,7 @@ public final class BolsterBeds {
     // ---- 1 rows, texts, towns
 
     public int row(int r, int n) {
-        if (!rows.isNumber(r) || n > ROW_ROOM) {
-            return BAD;
-        }
-        if (n < 0) {
-            return refuse(SIZE);
-        }
-        rows.make(r, n, 0);
-        return n;
+        return makeAnew(rows, r, n, 0);
     }
 
     public int lay(int r, int i, int v) {
@@ -117,14 +110,7 @@ public final class BolsterBeds {
     }
 
     public int text(int t, int n) {
-        if (!texts.isNumber(t) || n > TEXT_ROOM) {
-            return BAD;
-        }
-        if (n < 0) {
-            return refuse(SIZE);
-        }
-        texts.make(t, n, BLANK);
-        return n;
+        return makeAnew(texts, t, n, BLANK);
     }
 
     public int put(int t, int i, int v) {
@@ -553,6 +539,17 @@ public final class BolsterBeds {
         latestFinding = f;
         write(findingCounts, f, read(findingCounts, f) + 1);
         return FINDING;
+    }
+
+    private int makeAnew(Shelf shelf, int r, int n, int filling) {
+        if (!shelf.isNumber(r) || n > shelf.room) {
+            return BAD;
+        }
+        if (n < 0) {
+            return refuse(SIZE);
+        }
+        shelf.make(r, n, filling);
+        return n;
     }
 
     private int refusalOfMissing(Shelf shelf, int r) {
