@@ -1,21 +1,30 @@
-/** What the tests share: dues, towns by a text, rows by their numbers. */
+/** What the tests share: dues by promises, towns by a text, rows by their numbers. */
 final class Check {
     /** A kind each: gaps 5, 7, 6, 6, 2, 9; colds 2, 4, 1, 3; thread 5. */
     static final String ALL_KINDS = "n24135 b725 s813 q284 c934 t467 w902";
     /** Nothing crosses here, ever. */
     static final String STILL = "n00001b000";
 
+    private static String heading = "";
     private static int wrong = 0;
     private static int asked = 0;
 
     private Check() {
     }
 
+    /**
+     * What is due from here on belongs to a promise, by these words of the document (SentencesTest looks
+     * whether they stand there, and whether each word of the document is held by a test).
+     */
+    static void promise(int number, String words) {
+        heading = "promise " + number + ", \"" + words + "\": ";
+    }
+
     static void due(String call, long got, long want) {
         asked++;
         if (got != want) {
             wrong++;
-            System.out.println(call + " answered " + got + ", due is " + want);
+            System.out.println(heading + call + " answered " + got + ", due is " + want);
         }
     }
 

@@ -3,9 +3,9 @@ import java.util.HashMap;
 import java.util.Map;
 import java.util.Random;
 
-/** Runs of calls by lots, each answer held against the model's, and all that is told behind it. */
+/** Promises 1 to 42: runs of calls by lots, each answer held against the model's, and what is told now and then. */
 public final class ModelTest {
-    private static final int RUNS = 400, CALLS = 512;
+    private static final int RUNS = 1000, CALLS = 512, TOLD = 5;
     private static final String LETTERS = "bsqctw";
     // A name stands as often as it should come.
     private static final String[] NAMES = (
@@ -62,7 +62,11 @@ public final class ModelTest {
         }
     }
 
+    /** The same call of both, unless all calls are made. */
     private void both(String name, int... a) throws ReflectiveOperationException {
+        if (made >= CALLS) {
+            return;
+        }
         Object[] boxed = new Object[a.length];
         StringBuilder said = new StringBuilder("run " + run + ", call " + made + ": " + name + "(");
         for (int k = 0; k < a.length; k++) {
@@ -77,11 +81,18 @@ public final class ModelTest {
             answered.merge(name, 1, Integer::sum);
         }
         due(said.toString(), got, want);
+        if (random.nextInt(4) == 0 && made + TOLD <= CALLS) {
+            told(said.toString());
+        }
+    }
+
+    private void told(String said) {
+        made += TOLD;
         due(said + ", then asked()", x.asked(), model.asked);
         due(said + ", then upper()", x.upper(), model.upper);
         due(said + ", then lower()", x.lower(), model.lower);
         due(said + ", then finding()", x.finding(), model.finding);
-        due(said + ", then digest()", x.digest(), model.call("digest", a));
+        due(said + ", then digest()", x.digest(), model.call("digest", of()));
     }
 
     private void due(String said, long got, long want) {
