@@ -1265,7 +1265,7 @@ public final class BolsterBeds {
     private static final class Duel {
         private final Levels levels = new Levels(DUEL_TURNS);
 
-        int foundFrom(Town town, int turn, int n) {
+        private int foundFrom(Town town, int turn, int n) {
             if (turn >= n) {
                 return 0;
             }

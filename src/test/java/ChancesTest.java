@@ -21,17 +21,13 @@ public final class ChancesTest {
 
     /** 3, 5, 1 lie, the thread is 3. */
     private static BolsterBeds twoOpen() {
-        BolsterBeds x = Check.town("n00003 b300 b500 b100");
-        x.night();
+        BolsterBeds x = Check.after(1, "n00003 b300 b500 b100");
         Check.due("two are open", x.count(5), 3);
         return x;
     }
 
     private static BolsterBeds sixOpen() {
-        BolsterBeds x = Check.town("n99991 b900 b900 b900 b900 b900 b900");
-        for (int d = 0; d < 10; d++) {
-            x.night();
-        }
+        BolsterBeds x = Check.after(10, "n99991 b900 b900 b900 b900 b900 b900");
         Check.due("six are open", x.count(5), 63);
         return x;
     }
@@ -133,8 +129,7 @@ public final class ChancesTest {
         Check.chance(x, "mid(6)", x.mid(6), 99 * 63, 64);
         Check.chance(x, "mid(11)", x.mid(11), 99L * 2985983 / 9, 2985984 / 9);
         Check.chance(x, "mid(12)", x.mid(12), 99, 1);
-        BolsterBeds y = Check.town("n00001 b600 b500 b400 b300 b200 b100");
-        y.night();
+        BolsterBeds y = Check.after(1, "n00001 b600 b500 b400 b300 b200 b100");
         // 6 by a half, 5 by a fourth, ..
         Check.chance(y, "mid(6) of 6, 5, ..", y.mid(6), 6 * 32 + 5 * 16 + 4 * 8 + 3 * 4 + 2 * 2 + 1, 64);
     }

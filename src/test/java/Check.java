@@ -52,6 +52,15 @@ final class Check {
         return x;
     }
 
+    /** A town behind so many nights, each a deed. */
+    static BolsterBeds after(int nights, String text) {
+        BolsterBeds x = town(text);
+        for (int d = 0; d < nights; d++) {
+            due("night " + d + " of " + text, x.night() >= 0 ? 1 : 0, 1);
+        }
+        return x;
+    }
+
     static void row(BolsterBeds x, int r, int... values) {
         due("row(" + r + ", " + values.length + ")", x.row(r, values.length), values.length);
         for (int i = 0; i < values.length; i++) {

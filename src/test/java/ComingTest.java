@@ -14,14 +14,6 @@ public final class ComingTest {
         Check.end("ComingTest");
     }
 
-    private static BolsterBeds after(int nights, String text) {
-        BolsterBeds x = Check.town(text);
-        for (int d = 0; d < nights; d++) {
-            x.night();
-        }
-        return x;
-    }
-
     private static void then(BolsterBeds x, int i, int n, int lie, int thick) {
         Check.due("then(" + i + ", " + n + ")", x.then(i, n), lie);
         Check.due("then(" + i + ", " + n + ") thick", x.asked(), thick);
@@ -45,7 +37,7 @@ public final class ComingTest {
             then(slow, 0, n, n, 0);
             then(slow, 1, n, 0, 3);
         }
-        BolsterBeds late = after(40, "n00019 b000 b909");
+        BolsterBeds late = Check.after(40, "n00019 b000 b909");
         // Ten nights of cold 1 have passed, ten more are to come.
         then(late, 0, 0, 10, 0);
         then(late, 0, 3, 10, 0);
@@ -55,7 +47,7 @@ public final class ComingTest {
 
     private static void thenAsTheNightsPass() {
         Check.promise(22, "behind n (0 .. 40) NIGHTS");
-        BolsterBeds x = after(5, Check.ALL_KINDS);
+        BolsterBeds x = Check.after(5, Check.ALL_KINDS);
         x.keep(0);
         for (int i = 0; i < 6; i++) {
             int lie = x.then(i, 7);
@@ -71,7 +63,7 @@ public final class ComingTest {
 
     private static void thenAside() {
         Check.promise(22, "nights to come (aside, nothing else being done)");
-        BolsterBeds x = after(40, "n99991 b905 s803");
+        BolsterBeds x = Check.after(40, "n99991 b905 s803");
         long digest = x.digest();
         for (int n = 0; n <= 40; n += 8) {
             x.then(0, n);
@@ -99,14 +91,14 @@ public final class ComingTest {
         for (int thread = 1; thread <= 9; thread++) {
             Check.due("thread " + thread, Check.town("n0000" + thread + " b100").when(0), thread);
         }
-        Check.due("the thread lies now", after(3, "n00003 b100").when(0), 0);
-        Check.due("one less than the thread lies now", after(2, "n00003 b100").when(0), 1);
+        Check.due("the thread lies now", Check.after(3, "n00003 b100").when(0), 0);
+        Check.due("one less than the thread lies now", Check.after(2, "n00003 b100").when(0), 1);
         // One of cold 1 in four nights crosses: behind 4 k + 4 nights k + 1 lie.
         Check.due("behind 36", Check.town("n00019 b000").when(0), 36);
         Check.due("behind 33", Check.town("n10009 b000").when(0), 33);
-        Check.due("behind 35 more", after(1, "n00019 b000").when(0), 35);
-        Check.due("behind 28 more", after(8, "n00019 b000").when(0), 28);
-        Check.due("from night 37 on", after(37, "n00002 b009 b100").when(1), 0);
+        Check.due("behind 35 more", Check.after(1, "n00019 b000").when(0), 35);
+        Check.due("behind 28 more", Check.after(8, "n00019 b000").when(0), 28);
+        Check.due("from night 37 on", Check.after(37, "n00002 b009 b100").when(1), 0);
         // As a bolster wears thin: 3, 4, 5, ..
         Check.due("wearing thin", Check.town("n00009 b603").when(0), 3);
         Check.due("a clock in its even nights: 2, 2, 2", Check.town("n00005 c200").when(0), 5);
@@ -117,8 +109,8 @@ public final class ComingTest {
         Check.due("nothing crosses", Check.town(Check.STILL).when(0), NONE);
         Check.due("no more than the bar", Check.town("n00001 b303").when(0), NONE);
         Check.due("of a clock none in night 3, 7, ..", Check.town("n00011 c000").when(0), NONE);
-        Check.due("but of a bed: 2 in night 0, 2 in night 4", after(1, "n20004 b000").when(0), 4);
-        BolsterBeds y = after(1, "n00009 b800 b888");
+        Check.due("but of a bed: 2 in night 0, 2 in night 4", Check.after(1, "n20004 b000").when(0), 4);
+        BolsterBeds y = Check.after(1, "n00009 b800 b888");
         y.swap(0, 1);
         Check.due("eight lie, no more will", y.when(0), NONE);
         y.at(5, 0);
@@ -147,7 +139,7 @@ public final class ComingTest {
         Check.due("one in each of nine nights", one.least(0, 9), 1);
         Check.due("one in each of eight nights", one.least(0, 8), NONE);
         Check.due("one in each of 40 nights", one.least(0, 40), 1);
-        BolsterBeds full = after(40, "n00003 b307");
+        BolsterBeds full = Check.after(40, "n00003 b307");
         Check.due("by all of it, though there are 40 deeds", full.least(0, 1), 7);
         Check.due("behind two nights of 2", full.least(0, 2), 6);
         Check.due("behind three nights of 1", full.least(0, 3), 5);
@@ -158,7 +150,7 @@ public final class ComingTest {
         Check.due("behind no nights", Check.town("n00001 b900").least(0, 0), NONE);
         Check.due("not thick", Check.town(Check.STILL).least(0, 40), NONE);
         Check.due("one less than the thread", Check.town("n00009 b809").least(0, 1), NONE);
-        BolsterBeds clock = after(1, "n00001 c909");
+        BolsterBeds clock = Check.after(1, "n00001 c909");
         Check.due("a clock in an odd night", clock.least(0, 1), NONE);
         Check.due("in an even one, too", clock.least(0, 2), 1);
         BolsterBeds x = Check.town("n00002 b101");

@@ -26,14 +26,6 @@ public final class DeedsTest {
         Check.end("DeedsTest");
     }
 
-    private static BolsterBeds full(String text) {
-        BolsterBeds x = Check.town(text);
-        for (int d = 0; d < 40; d++) {
-            Check.due("night " + d, x.night() >= 0 ? 1 : 0, 1);
-        }
-        return x;
-    }
-
     private static void night() {
         Check.promise(15, "A NIGHT passes: how many FEATHERS CROSSED in all.");
         BolsterBeds x = Check.town(Check.ALL_KINDS);
@@ -109,10 +101,7 @@ public final class DeedsTest {
         Check.due("all crossed in night 6", x.night(), 19 + 18);
         Check.bed(x, 0, 4, 99);
         Check.due("99 in each", x.count(4), 198);
-        BolsterBeds y = Check.town("n00009 b900");
-        for (int m = 0; m < 11; m++) {
-            y.night();
-        }
+        BolsterBeds y = Check.after(11, "n00009 b900");
         Check.bed(y, 0, 4, 99);
         y.inspect(0);
         y.undo(10);
@@ -124,7 +113,7 @@ public final class DeedsTest {
         Check.promise(15, "STATE: no BEDS");
         Check.refused(none, "night()", none::night, STATE);
         Check.promise(15, "FULL: 40 DEEDS. (FULL last.)");
-        BolsterBeds x = full("n00001 b001 b009");
+        BolsterBeds x = Check.after(40, "n00001 b001 b009");
         Check.due("40 deeds", x.count(2), 40);
         Check.refused(x, "night()", x::night, FULL);
         x.undo(39);
@@ -183,7 +172,7 @@ public final class DeedsTest {
     }
 
     private static void inspectRefused() {
-        BolsterBeds x = full("n00001 b001 b100");
+        BolsterBeds x = Check.after(40, "n00001 b001 b100");
         Check.promise(16, "BAD;");
         Check.refused(x, "inspect(2)", () -> x.inspect(2), BAD);
         Check.refused(x, "inspect(-1)", () -> x.inspect(-1), BAD);
@@ -225,7 +214,7 @@ public final class DeedsTest {
         Check.due("thin(0)", x.thin(0), 0);
         Check.refused(x, "thin(0)", () -> x.thin(0), STATE);
         Check.promise(17, "FULL. (FULL last.)");
-        BolsterBeds full = full("n00001 b001 b000");
+        BolsterBeds full = Check.after(40, "n00001 b001 b000");
         Check.refused(full, "thin(0)", () -> full.thin(0), FULL);
         Check.refused(full, "STATE ahead of FULL", () -> full.thin(1), STATE);
         Check.refused(full, "BAD ahead of FULL", () -> full.thin(2), BAD);
@@ -268,7 +257,7 @@ public final class DeedsTest {
         BolsterBeds none = new BolsterBeds();
         Check.refused(none, "swap(0, 1) without beds", () -> none.swap(0, 1), BAD);
         Check.promise(18, "FULL. (FULL last.)");
-        BolsterBeds full = full("n00001 b010 b020");
+        BolsterBeds full = Check.after(40, "n00001 b010 b020");
         Check.refused(full, "swap(0, 1)", () -> full.swap(0, 1), FULL);
         Check.refused(full, "BAD ahead of FULL", () -> full.swap(0, 0), BAD);
         Check.refused(full, "BAD ahead of FULL, too", () -> full.swap(0, 2), BAD);
@@ -327,7 +316,7 @@ public final class DeedsTest {
             Check.due("as ahead of deed " + d, x.digest(), digests[d]);
             there = d;
         }
-        BolsterBeds y = full("n00001 b100");
+        BolsterBeds y = Check.after(40, "n00001 b100");
         Check.due("undo(40)", y.undo(40), 0);
         Check.due("undo(0): 40", y.undo(0), 40);
         Check.due("no deeds", y.count(2), 0);
@@ -347,7 +336,7 @@ public final class DeedsTest {
         BolsterBeds none = new BolsterBeds();
         Check.due("undo(0) without beds", none.undo(0), 0);
         Check.refused(none, "undo(1) without beds", () -> none.undo(1), BAD);
-        BolsterBeds full = full("n00001 b100");
+        BolsterBeds full = Check.after(40, "n00001 b100");
         Check.refused(full, "undo(41)", () -> full.undo(41), BAD);
     }
 
@@ -373,7 +362,7 @@ public final class DeedsTest {
         x.undo(0);
         Check.due("on(1) anew", x.on(1), 2);
         Check.bed(x, 1, 3, 2);
-        Check.due("keep(0) of a full one", full("n00001 b100").keep(0), 40);
+        Check.due("keep(0) of a full one", Check.after(40, "n00001 b100").keep(0), 40);
     }
 
     private static void keepRefused() {
@@ -423,7 +412,7 @@ public final class DeedsTest {
 
     private static void onOfFull() {
         Check.promise(21, "as it was kept");
-        BolsterBeds x = full("n12343 b905 w808");
+        BolsterBeds x = Check.after(40, "n12343 b905 w808");
         Check.due("keep(1)", x.keep(1), 40);
         long digest = x.digest();
         x.undo(3);

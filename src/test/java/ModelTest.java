@@ -1,12 +1,15 @@
 import java.lang.reflect.Method;
+import java.util.Arrays;
 import java.util.HashMap;
 import java.util.Map;
 import java.util.Random;
+import java.util.TreeSet;
 
 /** Promises 1 to 42: runs of calls by lots, each answer held against the model's, and what is told now and then. */
 public final class ModelTest {
     private static final int RUNS = 1000, CALLS = 512, TOLD = 5;
     private static final String LETTERS = "bsqctw";
+    private static final int[] FAR_AND_NEAR = {Integer.MIN_VALUE, -1, 0, 1, 6, 41, Integer.MAX_VALUE};
     // A name stands as often as it should come.
     private static final String[] NAMES = (
         "row row lay lay at tear copy copy mean text put put fault town bed bed mark mark cross cross "
@@ -35,16 +38,47 @@ public final class ModelTest {
         for (String name : NAMES) {
             Check.due("calls of " + name + " that answered well", test.answered.getOrDefault(name, 0) > 100 ? 1 : 0, 1);
         }
+        for (String name : new TreeSet<>(Arrays.asList(NAMES))) {
+            test.farAndNear(name, true);
+            test.farAndNear(name, false);
+        }
         Check.end("ModelTest");
     }
 
-    private void oneRun(int seed) throws ReflectiveOperationException {
-        random = new Random(seed);
+    private void begin(int number) {
+        random = new Random(number);
         x = new BolsterBeds();
         model = new Model();
-        run = seed;
+        run = number;
         made = 0;
         wrong = false;
+    }
+
+    /** A call by each of these numbers at each place, with a town, rows and a kept town, or without any. */
+    private void farAndNear(String name, boolean withTown) throws ReflectiveOperationException {
+        int[] a = new int[methods.get(name).getParameterCount()];
+        made = CALLS;
+        for (int number = 0; number < Math.pow(FAR_AND_NEAR.length, a.length); number++) {
+            if (made >= CALLS) {
+                begin(number);
+                if (withTown) {
+                    writeTown(1);
+                    both("row", 1, 6);
+                    both("row", 0, 2);
+                    both("keep", 1);
+                }
+            }
+            int rest = number;
+            for (int k = 0; k < a.length; k++) {
+                a[k] = FAR_AND_NEAR[rest % FAR_AND_NEAR.length];
+                rest /= FAR_AND_NEAR.length;
+            }
+            both(name, a);
+        }
+    }
+
+    private void oneRun(int seed) throws ReflectiveOperationException {
+        begin(seed);
         // A few runs go on without beds, or with a text by chance.
         if (seed % 10 != 0) {
             writeTown(random.nextInt(4));

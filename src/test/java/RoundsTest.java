@@ -17,14 +17,6 @@ public final class RoundsTest {
         Check.end("RoundsTest");
     }
 
-    private static BolsterBeds full(String text) {
-        BolsterBeds x = Check.town(text);
-        for (int d = 0; d < 40; d++) {
-            x.night();
-        }
-        return x;
-    }
-
     private static void rounds(String text, int n, int found, int... first) {
         BolsterBeds x = Check.town(text);
         Check.due("round(" + n + ", 3) of " + text, x.round(n, 3), found);
@@ -43,7 +35,7 @@ public final class RoundsTest {
         rounds("n00003 b300 b700", 1, 7, 1);
         rounds("n00008 b300 b700", 1, 0, NONE);
         rounds("n99999 b900 b900 b900", 4, 36 + 54 + 72, NONE, 0, 1, 2);
-        BolsterBeds x = full("n99991 b900 b800");
+        BolsterBeds x = Check.after(40, "n99991 b900 b800");
         Check.due("99 at most lie", x.round(2, 0), 198);
         Check.rowIs(x, "both", 0, 0, 1);
     }
@@ -90,7 +82,7 @@ public final class RoundsTest {
 
     private static void roundIsAside() {
         Check.promise(25, "ROUND of n (0 .. 4) NIGHTS;");
-        BolsterBeds x = full(Check.ALL_KINDS);
+        BolsterBeds x = Check.after(40, Check.ALL_KINDS);
         x.row(1, 3);
         int[] told = new int[11];
         for (int what = 0; what < told.length; what++) {
@@ -137,7 +129,7 @@ public final class RoundsTest {
         brings(twin, 2, 1, 1);
         brings(twin, 10, 1, NONE, NONE, NONE, NONE, NONE, NONE, NONE, NONE, NONE, 0);
         brings(twin, 10 + 2, 2, 1, 1, 1, NONE, NONE, NONE, NONE, NONE, NONE, 0);
-        brings(full("n99991 b900 b800"), 99 + 99 + 9 + 10, 3, 1, 0, NONE, 0);
+        brings(Check.after(40, "n99991 b900 b800"), 99 + 99 + 9 + 10, 3, 1, 0, NONE, 0);
     }
 
     private static void bringsByTheRound() {

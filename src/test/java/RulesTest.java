@@ -5,6 +5,9 @@ import java.lang.reflect.Modifier;
 import java.nio.file.Files;
 import java.nio.file.Path;
 import java.util.Arrays;
+import java.util.HashMap;
+import java.util.HashSet;
+import java.util.Map;
 import java.util.Set;
 import java.util.TreeSet;
 import java.util.regex.Matcher;
@@ -27,12 +30,18 @@ public final class RulesTest {
         "var", "yield", "sealed", "permits", "protected", "goto", "strictfp", "String", "float", "double",
         "Object", "Class", "Thread", "Random", "System.out", "System.exit", "nanoTime", "currentTimeMillis"};
 
+    private static final int DEEPEST = 8;
+    private static final Pattern METHOD =
+        Pattern.compile(" {4}( {4})?((?:public |private |static )*)(?:[\\w\\[\\]]+ )?(\\w+)\\([^()]*\\) \\{");
+
     public static void main(String[] args) throws Exception {
         face();
         constants();
         onlyTheFaceIsSeen();
         classesInside();
-        source(stripped(Files.readString(Path.of(SOURCE))));
+        String code = stripped(Files.readString(Path.of(SOURCE)));
+        source(code);
+        calls(code);
         Check.end("RulesTest");
     }
 
@@ -84,6 +93,11 @@ public final class RulesTest {
         for (Method m : BolsterBeds.class.getDeclaredMethods()) {
             if (!Modifier.isPublic(m.getModifiers())) {
                 holds(m + " is private", Modifier.isPrivate(m.getModifiers()));
+                holds(m + " has a name of its own", !names.contains(m.getName()));
+            }
+        }
+        for (Class<?> c : BolsterBeds.class.getDeclaredClasses()) {
+            for (Method m : c.getDeclaredMethods()) {
                 holds(m + " has a name of its own", !names.contains(m.getName()));
             }
         }
@@ -152,5 +166,54 @@ public final class RulesTest {
                 lines = 0;
             }
         }
+    }
+
+    /** Who calls whom, by names alone: calls of one name are taken for calls of each that bears it. */
+    private static void calls(String code) {
+        Map<String, Set<String>> called = new HashMap<>();
+        Map<String, String> modifiers = new HashMap<>();
+        String method = "";
+        for (String line : code.split("\n")) {
+            Matcher head = METHOD.matcher(line);
+            if (head.matches()) {
+                method = head.group(3);
+                called.putIfAbsent(method, new HashSet<>());
+                modifiers.merge(method, head.group(2), String::concat);
+            } else if (!method.isEmpty()) {
+                Matcher names = Pattern.compile("(?<!(?:Arrays|Math|Integer|System)\\.)\\b(\\w+)\\(").matcher(line);
+                while (names.find()) {
+                    called.get(method).add(names.group(1));
+                }
+            }
+        }
+        holds("all methods are read, not " + called.size(), called.size() > 100);
+        for (String name : called.keySet()) {
+            if (reaches(name, name, called, new HashSet<>())) {
+                holds(name + " calls itself, and is private", modifiers.get(name).contains("private"));
+            }
+            int deep = deepest(name, called, new HashSet<>());
+            holds(name + " goes " + deep + " deep", deep <= DEEPEST);
+        }
+    }
+
+    private static boolean reaches(String from, String to, Map<String, Set<String>> called, Set<String> seen) {
+        for (String next : called.get(from)) {
+            if (next.equals(to) || called.containsKey(next) && seen.add(next) && reaches(next, to, called, seen)) {
+                return true;
+            }
+        }
+        return false;
+    }
+
+    private static int deepest(String from, Map<String, Set<String>> called, Set<String> open) {
+        open.add(from);
+        int deep = 0;
+        for (String next : called.get(from)) {
+            if (called.containsKey(next) && !open.contains(next)) {
+                deep = Math.max(deep, deepest(next, called, open));
+            }
+        }
+        open.remove(from);
+        return deep + 1;
     }
 }

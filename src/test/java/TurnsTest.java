@@ -44,10 +44,7 @@ public final class TurnsTest {
 
     private static void turnByTurn() {
         Check.promise(32, "By n (0 .. 4) turns in all,");
-        BolsterBeds x = Check.town("n99991 b900 b800");
-        for (int d = 0; d < 40; d++) {
-            x.night();
-        }
+        BolsterBeds x = Check.after(40, "n99991 b900 b800");
         int[] due = {0, 0, 99, 99, 198};
         for (int n = 0; n <= 4; n++) {
             Check.due("duel(" + n + "), though there are 40 deeds", x.duel(n), due[n]);
