@@ -402,6 +402,11 @@ public final class DeedsTest {
         x.night();
         Check.due("on(1), from elsewhere", x.on(1), 7);
         Check.due("as it was kept, from elsewhere", x.digest(), digest);
+        x.undo(0);
+        x.thin(5);
+        x.thin(4);
+        Check.due("on(1), from other deeds", x.on(1), 7);
+        Check.due("as it was kept, from other deeds", x.digest(), digest);
         Check.due("its deeds are undone", x.undo(2), 5);
         Check.due("no fine then", x.count(3), 0);
         Check.due("on(0), as kept as the other one", x.on(0), 7);
