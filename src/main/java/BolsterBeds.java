@@ -868,7 +868,7 @@ public final class BolsterBeds {
         }
 
         boolean wouldBeFound(int i) {
-            return has(i) && liesIn(i) >= thread;
+            return has(i) && read(lying, i) >= thread;
         }
 
         int wouldBeFoundBits() {
@@ -1125,6 +1125,10 @@ public final class BolsterBeds {
                 return;
             }
             town.passNight();
+            inspectEach(town, depth, n, found);
+        }
+
+        private void inspectEach(Town town, int depth, int n, int found) {
             for (int i = -1; i < town.beds; i++) {
                 // A bed that is not found out is as good as none, which comes ahead.
                 if (i < 0 || town.wouldBeFound(i)) {
@@ -1164,6 +1168,10 @@ public final class BolsterBeds {
                 copyAll(way, first);
                 return;
             }
+            giveEach(town, i, given, crossed);
+        }
+
+        private void giveEach(Town town, int i, int given, int crossed) {
             for (int whose = 0; whose < town.beds; whose++) {
                 if ((given >> whose & 1) == 0) {
                     write(way, i, whose);

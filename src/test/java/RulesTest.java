@@ -191,6 +191,9 @@ public final class RulesTest {
             if (reaches(name, name, called, new HashSet<>())) {
                 holds(name + " calls itself, and is private", modifiers.get(name).contains("private"));
             }
+            if (called.get(name).contains(name)) {
+                holds(name + " calls itself straight on, and is static", modifiers.get(name).contains("static"));
+            }
             int deep = deepest(name, called, new HashSet<>());
             holds(name + " goes " + deep + " deep", deep <= DEEPEST);
         }
