@@ -19,6 +19,7 @@ public final class CluesTest {
         kindsByThickAsNow();
         test();
         testOfSome();
+        byHalvesAsNow();
         testOfNone();
         thicksRefused();
         kindsRefused();
@@ -213,6 +214,24 @@ public final class CluesTest {
         tests(y, 0, 1, 5, 0, 9);
         tests(y, 0, 0, 5, 0, 9, 1, 9);
         tests(y, 0, 0, 1, 0, 9, 1, 0);
+    }
+
+    private static void byHalvesAsNow() {
+        BolsterBeds x = Check.town("n00001 b900 b140");
+        // Gap 9: 5 cross in a bed, a clock of 4, a straw of 2, in quilts of 8 and 9.
+        Check.promise(31, "(pairs that fit these)");
+        tests(x, 0, 1, 4, 0, 5);
+        Check.promise(30, "KINDS (bits) that it can be of by these");
+        kinds(x, 0, 0, 0, 5);
+        Check.promise(29, "a BED's bolster");
+        thicks(x, 0, 1 << 4, 0, 5);
+        x.swap(0, 1);
+        // Gap 5: in a bed, a clock of 0, in quilts of 0 and 1, in thin ones of 2 and 3.
+        thicks(x, 0, 1, 0, 5);
+        Check.promise(30, "KINDS (bits) that it can be of by these");
+        kinds(x, 0, 1 << 0 | 1 << 2 | 1 << 3, 0, 5);
+        Check.promise(31, "(pairs that fit these)");
+        tests(x, 0, 1, 5, 0, 5);
     }
 
     private static void testOfNone() {

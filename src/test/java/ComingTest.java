@@ -143,6 +143,9 @@ public final class ComingTest {
         Check.due("by all of it, though there are 40 deeds", full.least(0, 1), 7);
         Check.due("behind two nights of 2", full.least(0, 2), 6);
         Check.due("behind three nights of 1", full.least(0, 3), 5);
+        BolsterBeds sealed = Check.after(1, "n00005 b900");
+        sealed.inspect(0);
+        Check.due("9 thick, though it was less at first", sealed.least(0, 1), 5);
     }
 
     private static void leastOfNone() {

@@ -176,6 +176,16 @@ public final class MarriagesTest {
         x.swap(0, 1);
         Check.due("none would", x.rather(), 0);
         Check.due("NONE by asked()", x.asked(), NONE);
+        BolsterBeds y = Check.town("n00001 b980 b120 b550");
+        Check.due("none would at first", y.rather(), 0);
+        y.swap(0, 1);
+        Check.due("two would now", y.rather(), 1);
+        Check.due("1: the pair of 0 and 1 now", y.asked(), 1);
+        BolsterBeds fewer = Check.town("n00001 b550 b920 b180");
+        Check.due("a pair of three beds", fewer.rather(), 1);
+        Check.write(fewer, 0, "n00001 b550 b920");
+        Check.due("the third bed goes", fewer.town(0), 2);
+        Check.due("no pair of the two that are left", fewer.rather(), 0);
     }
 
     private static void ratherRefused() {

@@ -19,6 +19,7 @@ public final class TownsTest {
         bars();
         markOfEachKind();
         markByNight();
+        markByHalvesAsNow();
         markRefused();
         crossByNights();
         crossByKinds();
@@ -393,6 +394,21 @@ public final class TownsTest {
         x.thin(2);
         Check.due("a wall of 6: 9 as a straw is 1", x.mark(2, 5), 1);
         Check.due("as a bed it is 3", x.mark(2, 1), 3);
+    }
+
+    private static void markByHalvesAsNow() {
+        Check.promise(13, "in the NIGHT that is due");
+        BolsterBeds x = Check.town("n00001 s800 s180 t900 t190 w800 w180");
+        int[][] due = {{0, 1, 2}, {2, 4, 1}, {4, 5, 3}, {4, 1, 5}};
+        for (int[] d : due) {
+            Check.due("mark(" + d[0] + ", " + d[1] + ")", x.mark(d[0], d[1]), d[2]);
+        }
+        x.swap(0, 1);
+        x.swap(2, 3);
+        x.swap(4, 5);
+        for (int[] d : due) {
+            Check.due("mark(" + d[0] + ", " + d[1] + ") without a gap", x.mark(d[0], d[1]), 0);
+        }
     }
 
     private static void markRefused() {
